@@ -7,7 +7,7 @@ public final class HistoryTest {
         StringBuilder b = new StringBuilder();
         for (int what = 0; what < 17; what++) b.append(x.counts(what)).append(' ');
         for (int i = 0; i < 40; i++) {
-            for (int what = 0; what < 2; what++) b.append(x.entry(0, i, what)).append(',').append(x.entry(1, i, what)).append(' ');
+            for (int what = 0; what < 4; what++) b.append(x.entry(what & 1, i, what >> 1)).append(' ');
         }
         for (int r = 0; r < 8; r++) b.append(x.register(r)).append(' ');
         for (int k = 0; k < 10; k++) for (int what = 0; what < 6; what++) b.append(x.ofKey(k, what)).append(' ');
@@ -215,7 +215,8 @@ public final class HistoryTest {
         x.seal(0, 70 + n, n == 1 ? -1 : 0);
         x.seal(1, 80 + n, n);
         x.open(0, n);
-        x.approve(0, n, x.word(0, 2, n));
+        x.approve(0, 3 - n, x.word(0, 2, 3 - n));
+        x.policy(6, n - 1, 0);
         x.swapOut(1);
     }
 
@@ -240,7 +241,7 @@ public final class HistoryTest {
         x.count(0, 3, x.word(0, 3, 3));
         x.approve(2, 0, x.word(2, 2, 0));
         int[] later = {0, 2, 2, 2, 1, 3, 2, 1, 1, 1, 5, 4, 0, 1, 0, 2, 1, 8};
-        for (int what = 0; what < later.length; what++) check.due("52: counts(" + what + ")", x.counts(what), later[what]);
+        for (int w = 0; w < later.length; w++) check.due("52: counts(" + w + ")", x.counts(w), later[w]);
     }
 
     private static void countsOfRefused() {

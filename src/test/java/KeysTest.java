@@ -173,7 +173,7 @@ public final class KeysTest {
 
     private static void way(StartLedger x, int seal, int... moves) {
         check.due("41: reach(" + seal + ", NONE)", x.reach(seal, StartLedger.NONE), moves.length);
-        for (int i = 0; i < moves.length; i++) check.due("41: reach(" + seal + ", " + i + ")", x.reach(seal, i), moves[i]);
+        for (int i = 0; i < moves.length; i++) check.due("41: move " + i + " to " + seal, x.reach(seal, i), moves[i]);
         check.due("41: reach behind the last", x.reach(seal, moves.length), -1);
         check.due("41: reach(" + seal + ", -2)", x.reach(seal, -2), -1);
     }

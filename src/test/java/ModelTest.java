@@ -49,6 +49,14 @@ public final class ModelTest {
         return random.nextInt(12) == 0 ? upTo(-2, size + 1) : random.nextInt(Math.max(1, size));
     }
 
+    /** Mostly one of the bits that are set, at times any number near. */
+    private int bitOf(int bits, int size) {
+        if (bits == 0 || random.nextInt(10) == 0) return upTo(-1, size);
+        int bit = random.nextInt(size);
+        while ((bits >> bit & 1) == 0) bit = random.nextInt(size);
+        return bit;
+    }
+
     private int anyInt() {
         int[] odd = {0, 1, -1, Integer.MIN_VALUE, Integer.MAX_VALUE};
         int way = random.nextInt(8);
@@ -70,9 +78,9 @@ public final class ModelTest {
             case 't': return random.nextInt(4) == 0 ? upTo(-1, 101) : upTo(1, 3);
             case 'r': return register();
             case 'n': return anyInt();
-            case 'w': return random.nextInt(10) == 0 ? upTo(-1, 3) : random.nextInt(8) == 0 ? 1 : 0;
+            case 'w': return random.nextInt(10) == 0 ? upTo(-1, 3) : random.nextInt(5) == 0 ? 1 : 0;
             case 'e': return oneOf(Math.max(m.counts(3), m.counts(4)));
-            case 's': return oneOf(3);
+            case 's': return name.equals("key") && random.nextInt(3) == 0 ? -1 : bitOf(m.counts(6), 3);
             case 'k': return oneOf(m.counts(5));
             case 'c': return random.nextBoolean() ? m.counts(7) - 1 : oneOf(m.counts(7));
             case 'o': return oneOf(8);
@@ -80,7 +88,7 @@ public final class ModelTest {
             case 'b': return policyNumber(before[0], false);
             case 'z': return set();
             case 'p': return random.nextInt(6) == 0 ? -1 : oneOf(m.counts(8));
-            case 'x': return oneOf(random.nextInt(4) == 0 ? 4 : 2);
+            case 'x': return bitOf(m.counts(10), 4);
             case '1': return oneOf(m.counts(9));
             case 'u': return oneOf(4);
             case 'i': return oneOf(2);
@@ -121,8 +129,6 @@ public final class ModelTest {
     private int quote(String name, int[] before) {
         if (random.nextInt(4) == 0) return anyInt();
         if (name.equals("guess")) return m.quote(before[0], before[1], upTo(-2, 1002));
-        int key = 0;
-        while (m.ofKey(key, 1) != before[0] && key < 10) key++;
         for (int set = 0; set < 256; set++) {
             if (m.digest(set) == before[1]) return m.quote(before[0], set, before[2]);
         }
@@ -169,9 +175,13 @@ public final class ModelTest {
         for (int i = 0; i < weights.length; i++) weights[i] = i < ACTS ? likely[random.nextInt(likely.length)] : 1;
         weights[names.indexOf("start")] = random.nextInt(3) == 0 ? 1 : 0;
         weights[names.indexOf("back")] = random.nextInt(3) == 0 ? 1 : 0;
-        weights[names.indexOf("key")] = 5;
-        weights[names.indexOf("load")] = 10;
+        weights[names.indexOf("undo")] = random.nextInt(3);
+        weights[names.indexOf("key")] = 3;
+        weights[names.indexOf("load")] = 12;
         weights[names.indexOf("open")] = 5;
+        weights[names.indexOf("seal")] = 3;
+        weights[names.indexOf("flush")] = random.nextInt(3);
+        weights[names.indexOf("close")] = random.nextInt(3);
         weights[names.indexOf("policy")] = Math.max(3, weights[names.indexOf("policy")]);
         weights[names.indexOf("reach")] = searches ? 2 : 0;
     }
@@ -184,31 +194,101 @@ public final class ModelTest {
         return true;
     }
 
-    /** Keys and contexts alone, and the way to each seal, i by i. */
+    private boolean same(String name, int... numbers) throws ReflectiveOperationException {
+        return same(names.indexOf(name), numbers);
+    }
+
+    /** Loads a key, and what is above it as far as it must; slots are flushed for it. */
+    private boolean bring(int key) throws ReflectiveOperationException {
+        if (m.ofKey(key, 1) != -1) return true;
+        int parent = m.ofKey(key, 0);
+        if (parent != -1 && !bring(parent)) return false;
+        int slot = parent != -1 && m.ofKey(parent, 1) == 0 ? 1 : 0;
+        if (m.counts(6) == 7 && !same("flush", slot)) return false;
+        return same("load", 0, key);
+    }
+
+    /** Keys in a tree with a seal below each, loaded and swapped at random, and the way to each seal, i by i. */
     private boolean runOfWays() throws ReflectiveOperationException {
         x = new StartLedger();
         m = new Model();
-        drawWeights(true);
-        Arrays.fill(weights, 0);
-        String[] used = {"key", "load", "flush", "swapOut", "swapIn", "drop", "seal", "policy", "locality", "start"};
-        int[] often = {6, 14, 8, upTo(1, 8), upTo(0, 3), 1, 4, 1, 1, 0};
-        for (int i = 0; i < used.length; i++) weights[names.indexOf(used[i])] = often[i];
-        int reach = names.indexOf("reach");
-        for (int i = 0; i < 120; i++) {
-            if (!sameRandom(drawCall())) return false;
-            if (i % 10 != 9 || m.counts(9) == 0) continue;
-            int seal = random.nextInt(m.counts(9));
-            for (int move = -1; move < 7; move++) if (!same(reach, new int[] {seal, move})) return false;
+        int deep = random.nextInt(4);
+        for (int n = 0; n < 4; n++) if (!same("policy", n < 3 ? 2 : 5, n, 0)) return false;
+        for (int k = 0; k < 10; k++) {
+            int parent = random.nextInt(4) < deep ? k - 1 : upTo(-1, k - 1);
+            if (parent != -1 && !bring(parent)) return false;
+            if (!same("key", m.ofKey(parent, 1), k) || !bring(k)) return false;
+            int policy = random.nextInt(3) == 0 ? random.nextInt(4) : -1;
+            if (!same("seal", m.ofKey(k, 1), k, policy)) return false;
+        }
+        for (int round = 0; round < 4; round++) {
+            if (random.nextInt(3) > 0 && !same("start")) return false;
+            if (random.nextInt(3) > 0 && !same("locality", random.nextInt(4))) return false;
+            for (int i = random.nextInt(12); i > 0; i--) if (!sameMove()) return false;
+            for (int seal = 0; seal < 10; seal++) {
+                int many = m.reach(seal, -1);
+                for (int i = -1; i <= many; i++) if (!same("reach", seal, i)) return false;
+            }
         }
         return true;
+    }
+
+    private boolean sameMove() throws ReflectiveOperationException {
+        switch (random.nextInt(6)) {
+            case 0: return same("flush", random.nextInt(3));
+            case 1: return same("swapOut", random.nextInt(3));
+            case 2: return same("swapIn", m.counts(7) - 1);
+            case 3: return same("drop", random.nextInt(20));
+            case 4: return bring(random.nextInt(10));
+            default: return same("load", 0, random.nextInt(10));
+        }
+    }
+
+    /** Logs told with one or two faults, and how they are mended. */
+    private boolean runOfClaims() throws ReflectiveOperationException {
+        x = new StartLedger();
+        m = new Model();
+        int[] registers = {0, 1, 5, 6};
+        int few = upTo(1, 4);
+        if (!same("locality", 2)) return false;
+        for (int round = 0; round < 30; round++) {
+            if (round % 10 == 9 && !same("start")) return false;
+            int[] measured = {registers[random.nextInt(few)], random.nextInt(3)};
+            if (!same("measure", measured)) return false;
+            List<int[]> told = new ArrayList<>();
+            for (int i = 0; i < m.counts(3); i++) told.add(new int[] {m.entry(0, i, 0), m.entry(0, i, 1)});
+            for (int faults = random.nextInt(3); faults > 0; faults--) spoil(told);
+            if (!same("claimAs", 1)) return false;
+            for (int[] entry : told) if (!same("claim", entry)) return false;
+            if (!same("wrong", 1)) return false;
+            if (!same("mended")) return false;
+        }
+        return true;
+    }
+
+    private void spoil(List<int[]> told) {
+        if (told.isEmpty()) return;
+        int i = random.nextInt(told.size());
+        switch (random.nextInt(5)) {
+            case 0: told.add(i, new int[] {random.nextInt(8), random.nextInt(3)}); break;
+            case 1: told.add(i, told.remove(random.nextInt(told.size()))); break;
+            case 2: told.get(i)[0] = random.nextInt(8); break;
+            case 3: told.remove(i); break;
+            default: told.add(Math.max(0, i - 1), told.remove(i)); break;
+        }
+    }
+
+    private boolean runOf(int sort) throws ReflectiveOperationException {
+        if (sort == 3) return runOfClaims();
+        if (sort == 5) return runOfWays();
+        return run(sort == 4);
     }
 
     public static void main(String[] args) throws ReflectiveOperationException {
         int runs = args.length == 0 ? 600 : Integer.parseInt(args[0]);
         for (int run = 0; run < runs; run++) {
             ModelTest test = new ModelTest(20_261_118L + run);
-            boolean good = run % 6 == 5 ? test.runOfWays() : test.run(run % 6 == 4);
-            if (!good) {
+            if (!test.runOf(run % 6)) {
                 System.out.println("ModelTest: run " + run + " is not as the model's");
                 System.exit(1);
             }
