@@ -2,22 +2,6 @@
 public final class HistoryTest {
     private static final Check check = new Check();
 
-    /** All that can be asked of an object's state, but for what is told of refused calls. */
-    private static String seen(StartLedger x) {
-        StringBuilder b = new StringBuilder();
-        for (int what = 0; what < 17; what++) b.append(x.counts(what)).append(' ');
-        for (int i = 0; i < 40; i++) {
-            for (int what = 0; what < 4; what++) b.append(x.entry(what & 1, i, what >> 1)).append(' ');
-        }
-        for (int r = 0; r < 8; r++) b.append(x.register(r)).append(' ');
-        for (int k = 0; k < 10; k++) for (int what = 0; what < 6; what++) b.append(x.ofKey(k, what)).append(' ');
-        for (int n = 0; n < 24; n++) for (int what = 0; what < 8; what++) b.append(x.of(n, what)).append(' ');
-        for (int p = 0; p < 24; p++) for (int what = 0; what < 7; what++) b.append(x.asks(p, what)).append(' ');
-        for (int s = 0; s < 4; s++) b.append(x.word(s, 1, 0)).append(',').append(x.audit(s)).append(' ');
-        for (int s = 0; s < 3; s++) b.append(x.quote(s, 0, 0)).append(' ');
-        return b.append(x.fresh(0, 1)).toString();
-    }
-
     /** Does the act that undo() tells by that number. */
     private static void act(StartLedger x, int which) {
         switch (which) {
@@ -68,12 +52,12 @@ public final class HistoryTest {
     private static void undoOfEach() {
         for (int which = 0; which <= 22; which++) {
             StartLedger x = ready();
-            String before = seen(x);
+            String before = Seen.of(x);
             act(x, which);
             check.due("26: act " + which + ": status()", x.status(), 0);
-            check.due("26: act " + which + " is to be seen", seen(x).equals(before) ? 1 : 0, 0);
+            check.due("26: act " + which + " is to be seen", Seen.of(x).equals(before) ? 1 : 0, 0);
             check.act(x, "26: undo() of " + which, x.undo(), which, 0);
-            check.due("26: all is as it was behind the undo of " + which, seen(x).equals(before) ? 1 : 0, 1);
+            check.due("26: all is as it was behind the undo of " + which, Seen.of(x).equals(before) ? 1 : 0, 1);
         }
         StartLedger x = ready();
         x.policyNow(3);
@@ -101,11 +85,11 @@ public final class HistoryTest {
         x.count(0, 4, 0);
         check.due("26: refused by -1, -2 it is not kept", x.counts(17), 8);
         check.due("26: but this", x.undo(), 2);
-        String before = seen(x);
+        String before = Seen.of(x);
         x.unseal(0, 2, 0);
         check.due("26: -4 by a session", x.status(), -4);
         check.due("26: is undone", x.undo(), 19);
-        check.due("26: all is as it was", seen(x).equals(before) ? 1 : 0, 1);
+        check.due("26: all is as it was", Seen.of(x).equals(before) ? 1 : 0, 1);
         for (int i = 0; i < 2; i++) x.count(0, 0, 1);
         check.due("26: locked()", x.locked(), 1);
         x.renew(0, 1, 1);
@@ -113,7 +97,7 @@ public final class HistoryTest {
         check.due("26: is undone", x.undo(), 22);
         check.due("26: -6 by a session is undone", x.undo(), 21);
         check.due("26: -6 by a session is undone", x.undo(), 21);
-        check.due("26: all is as it was", seen(x).equals(before) ? 1 : 0, 1);
+        check.due("26: all is as it was", Seen.of(x).equals(before) ? 1 : 0, 1);
         check.due("26: but what is told of refused calls", x.counts(23), 3);
         check.due("26: but what is told of refused calls", x.counts(20), 1);
         x.policy(2, 3, 0);
@@ -157,27 +141,27 @@ public final class HistoryTest {
         check.refused(x, "28: back(2)", x.back(2), -1);
         check.refused(x, "28: back(-1)", x.back(-1), -1);
         x.tick(5);
-        String first = seen(x);
+        String first = Seen.of(x);
         check.act(x, "27: image(0)", x.image(0), 5, 0);
         check.due("27: it is no act to be undone", x.counts(17), 8);
         for (int which = 0; which <= 22; which++) act(x, which);
         x.locality(9);
         x.tick(3);
-        String second = seen(x);
+        String second = Seen.of(x);
         int time = x.counts(1);
         check.act(x, "27: image(1)", x.image(1), time, 0);
         int refused = x.counts(18);
         check.act(x, "28: back(0)", x.back(0), 5, 0);
-        check.due("28: all is as it was", seen(x).equals(first) ? 1 : 0, 1);
+        check.due("28: all is as it was", Seen.of(x).equals(first) ? 1 : 0, 1);
         check.due("28: but what is told of refused calls", x.counts(18), refused);
         check.due("28: nothing can be undone", x.counts(17), 0);
         check.refused(x, "28: nothing can be undone", x.undo(), -4);
         x.locality(3);
         check.act(x, "28: back(1)", x.back(1), time, 0);
-        check.due("28: all is as it was", seen(x).equals(second) ? 1 : 0, 1);
+        check.due("28: all is as it was", Seen.of(x).equals(second) ? 1 : 0, 1);
         act(x, 4);
         check.act(x, "28: back(0) once more", x.back(0), 5, 0);
-        check.due("28: all is as it was", seen(x).equals(first) ? 1 : 0, 1);
+        check.due("28: all is as it was", Seen.of(x).equals(first) ? 1 : 0, 1);
         x.tick(1);
         x.image(0);
         x.undo();
@@ -189,19 +173,19 @@ public final class HistoryTest {
         StartLedger x = new StartLedger();
         x.image(0);
         liveBy(x, 1);
-        String first = seen(x);
+        String first = Seen.of(x);
         x.image(1);
         x.back(0);
         x.start();
         liveBy(x, 2);
-        check.due("27: it is another life", seen(x).equals(first) ? 1 : 0, 0);
+        check.due("27: it is another life", Seen.of(x).equals(first) ? 1 : 0, 0);
         x.back(1);
-        check.due("28: all is as it was", seen(x).equals(first) ? 1 : 0, 1);
+        check.due("28: all is as it was", Seen.of(x).equals(first) ? 1 : 0, 1);
         check.act(x, "28: its secret", x.unseal(0, 0, x.word(0, 1, 0)), 71, 0);
         check.act(x, "28: its context is of this start", x.swapIn(0), 1, 0);
         x.undo();
         x.undo();
-        check.due("28: all is as it was", seen(x).equals(first) ? 1 : 0, 1);
+        check.due("28: all is as it was", Seen.of(x).equals(first) ? 1 : 0, 1);
     }
 
     private static void liveBy(StartLedger x, int n) {

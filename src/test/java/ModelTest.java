@@ -63,6 +63,12 @@ public final class ModelTest {
         return way == 0 ? random.nextInt() : way == 1 ? odd[random.nextInt(odd.length)] : random.nextInt(4);
     }
 
+    /** One that hardly any call can take, but for those that take all. */
+    private int farInt() {
+        int[] far = {Integer.MIN_VALUE, Integer.MIN_VALUE + 1, Integer.MAX_VALUE, Integer.MAX_VALUE - 1, 1 << 16, -256};
+        return random.nextBoolean() ? random.nextInt() : far[random.nextInt(far.length)];
+    }
+
     private int set() {
         int[] odd = {-1, 256, 0, 255, 64, 128, 192, 1, 65};
         return random.nextBoolean() ? odd[random.nextInt(odd.length)] : random.nextInt(256);
@@ -155,7 +161,10 @@ public final class ModelTest {
     private boolean sameRandom(int call) throws ReflectiveOperationException {
         String kind = kinds.get(call);
         int[] numbers = new int[kind.length()];
-        for (int i = 0; i < numbers.length; i++) numbers[i] = draw(kind.charAt(i), numbers, names.get(call));
+        for (int i = 0; i < numbers.length; i++) {
+            boolean far = random.nextInt(40) == 0;
+            numbers[i] = far ? farInt() : draw(kind.charAt(i), numbers, names.get(call));
+        }
         return same(call, numbers);
     }
 
@@ -278,17 +287,40 @@ public final class ModelTest {
         }
     }
 
+    /** Numbers that take registers round among a few values, so that more than one mending is right at once. */
+    private boolean runOfFewValues() throws ReflectiveOperationException {
+        x = new StartLedger();
+        m = new Model();
+        int[] registers = {0, 3, 6};
+        int[] values = {0, -1, random.nextInt()};
+        if (!same("locality", 1)) return false;
+        for (int round = 0; round < 40; round++) {
+            if (round % 6 == 5 && !same("start")) return false;
+            if (round % 6 == 5 && !same("locality", 1)) return false;
+            int r = registers[random.nextInt(3)];
+            if (!same("measure", r, Edge.numberFor(m.register(r), values[random.nextInt(3)]))) return false;
+            if (!same("claimAs", random.nextInt(2))) return false;
+            for (int i = random.nextInt(5); i > 0; i--) {
+                int number = Edge.numberFor(values[random.nextInt(3)], values[random.nextInt(3)]);
+                if (!same("claim", registers[random.nextInt(3)], number)) return false;
+            }
+            if (!same("wrong", 1) || !same("mended")) return false;
+        }
+        return true;
+    }
+
     private boolean runOf(int sort) throws ReflectiveOperationException {
         if (sort == 3) return runOfClaims();
+        if (sort == 6) return runOfFewValues();
         if (sort == 5) return runOfWays();
         return run(sort == 4);
     }
 
     public static void main(String[] args) throws ReflectiveOperationException {
-        int runs = args.length == 0 ? 600 : Integer.parseInt(args[0]);
+        int runs = args.length == 0 ? 700 : Integer.parseInt(args[0]);
         for (int run = 0; run < runs; run++) {
             ModelTest test = new ModelTest(20_261_118L + run);
-            if (!test.runOf(run % 6)) {
+            if (!test.runOf(run % 7)) {
                 System.out.println("ModelTest: run " + run + " is not as the model's");
                 System.exit(1);
             }
